@@ -256,13 +256,13 @@ public final class KnockPipes {
         settle();
         int was = now.noises.place[noise];
         int best = 0;
-        int fewest = Integer.MAX_VALUE;
+        int fewest = 0;
         for (int to = 0; to < PLACES; to++) {
             now.noises.place[noise] = to;
             sounds.read(now.house, now.noises, noise);
             sounds.knock(now.noises, noise, now.day[TAP], now.day[PUMP]);
             int adds = heardInDayOf(noise, place);
-            if (adds < fewest) {
+            if (to == 0 || adds < fewest) {
                 fewest = adds;
                 best = to;
             }
@@ -672,7 +672,6 @@ public final class KnockPipes {
     /** A test of an E as one number, so that it can stand among the codes. */
     private static final class Test {
         static final String SUBJECTS = "npkvt", SIGNS = "<=>";
-        static final int MINUTE = 4;
 
         static int code(int subject, int sign, int number) {
             return (subject * 3 + sign) * 100 + number;

@@ -64,6 +64,10 @@ public final class KnockPipesPromises {
         kinds();
         images();
         fullImage();
+        rowsOfAnImage();
+        firstCalls();
+        everythingFull();
+        wildNumbers();
         System.out.println(wrong == 0 ? checked + " answers by hand are as due" : wrong + " answers are not as due");
         if (wrong != 0) System.exit(1);
     }
@@ -395,6 +399,12 @@ public final class KnockPipesPromises {
         x.day(0, minutes(0, 9) | minutes(13, 13));
         // 27 in minute 12, at which it sticks all the same; 30 in minute 13
         due("steamed sticks all the same", x.knocks(3, 13, 2), 1);
+        house(x, "warm 1;grow 10 k=4");
+        due("warmer than ahead of minute 0", x.knocks(2, 0, 2), 1);
+        house(x, "warm 99;cool 0;grow 10 t=5|k=1");
+        due("as warm as ahead: ticking", x.knocks(0, 0, 2) * 10 + x.knocks(0, 5, 2), 90);
+        due("as warm as ahead: steamed", x.knocks(2, 5, 2), 0);
+        due("as warm as ahead", x.warmth(5), 99);
         due("no noise knocks by other kinds' E", x.knocks(2, 14, 2), 0);
         house(x, "warm 99;cool 1;grow 10 t<30");
         due("9 at most", x.knocks(0, 0, 2), 9);
@@ -420,6 +430,7 @@ public final class KnockPipesPromises {
         x.noise(6, 0, 3, 10);
         x.noise(6, 0, 0, 10);
         x.noise(5, 0, 0, 10);
+        x.noise(3, 0, 2, 10);
         String[] want = {
             "3:1 33:1",
             "1:4 7:4",
@@ -429,7 +440,8 @@ public final class KnockPipesPromises {
             "5:1 6:1 7:1 8:1 9:1 16:1 17:1 18:1 19:1 20:1 21:1 22:1 23:1 24:1 25:1 26:1 27:1 28:1 29:1 30:1 31:1"
                 + " 32:1 33:1 34:1 35:1 36:1 37:1 38:1",
             null,
-            "0:1 5:1 39:1"};
+            "0:1 5:1 39:1",
+            "1:1 2:1 11:1 12:1 13:1"};
         for (int i = 0; i < want.length; i++) {
             if (want[i] == null) continue;
             for (int m = 0; m < 40; m++) {
@@ -493,6 +505,9 @@ public final class KnockPipesPromises {
         due("far off", x.heard(9, 1), 1);
         due("another minute", x.heard(0, 2), 0);
         due("the whole day", x.heard(2, -1), 4 + 5);
+        x.noise(0, 0, 0, 10);
+        due("from minute 0 on", x.heard(2, -1), 4 + 5 + 4);
+        x.still(3, true);
         x.still(1, true);
         due("a still one", x.heard(2, 1), 1);
         due("heard place", x.heard(10, 0), -1);
@@ -519,6 +534,10 @@ public final class KnockPipesPromises {
         x.noise(0, 6, 0, 12);
         // 2: 12 + 4; 4: 4 + 12 + 4; 6: 4 + 12; 3: 8 + 8
         due("in the midst", x.seems(0), 4);
+        x.noise(0, 0, 5, 1);
+        due("the first place, hardly loud", x.seems(5), 0);
+        x.noise(0, 9, 6, 1);
+        due("the last place", x.seems(6), 9);
         due("seems none", x.seems(40), -1);
         due("seems none", x.seems(-1), -1);
     }
@@ -686,6 +705,11 @@ public final class KnockPipesPromises {
         due("by 3, all under struck too", x.eased(2, 3), 3 + 3);
         due("other kinds are as loud", x.eased(2, 40), 6);
         due("1 at least", x.eased(0, 40), 0);
+        house(x, "hear 2");
+        due("1 at least, and no more", x.eased(0, 40), 6);
+        due("2", x.eased(0, 8), 0);
+        due("1 and 3", x.eased(0, 9), 3);
+        house(x, "hear 1;air 10;iron 2");
         x.still(0, true);
         due("a still one", x.eased(2, 40), 3);
         due("eased place", x.eased(10, 41), -1);
@@ -703,6 +727,9 @@ public final class KnockPipesPromises {
         x.noise(2, 0, 5, 40);
         x.noise(3, 0, 0, 1);
         x.noise(5, 9, 1, 1);
+        x.noise(0, 3, 0, 1);
+        due("parted in minute 0", x.parted(3, 0), minutes(0, 0) | minutes(5, 5) | minutes(10, 10) | minutes(20, 20)
+            | minutes(30, 30) | minutes(39, 39));
         due("parted", x.parted(0, 1), minutes(6, 6) | minutes(39, 39));
         due("either way", x.parted(1, 0), minutes(6, 6) | minutes(39, 39));
         due("not by how often", x.parted(0, 2), minutes(4, 4) | minutes(38, 38));
@@ -710,7 +737,7 @@ public final class KnockPipesPromises {
         x.still(1, true);
         due("each alone", x.parted(0, 1), minutes(6, 6) | minutes(39, 39));
         due("one", x.parted(1, 1), Long.MIN_VALUE);
-        due("no such", x.parted(0, 3), Long.MIN_VALUE);
+        due("no such", x.parted(0, 4), Long.MIN_VALUE);
         due("no such", x.parted(-1, 0), Long.MIN_VALUE);
         due("no such", x.parted(7, 7), Long.MIN_VALUE);
     }
@@ -731,6 +758,9 @@ public final class KnockPipesPromises {
         x.noise(0, 0, 9, 1);
         due("not quiet", x.quiet(0), 0);
         due("by which", x.quiet(1), 0b11000);
+        KnockPipes y = new KnockPipes();
+        y.noise(0, 0, 0, 1);
+        due("by the first", y.quiet(1), 1);
         x.still(3, true);
         due("a still one", x.quiet(1), 0b10000);
         x.still(4, true);
@@ -839,6 +869,7 @@ public final class KnockPipesPromises {
         act(x, 4, 1, 5, 19 - 5, 2, 11, 1);
         act(x, 4, 2, 5, (12 + 4 - 5) * 2 + 6 + 4, 41, 3, 2, 11, 1, 11, 1);
         act(x, 5, 0, 5, 10 ^ 5, 51, 1);
+        act(x, 5, 0, 0, 0, 51, 1);
         act(x, 5, 1, 5, -((10 ^ 5) - 4), 21, 2, 51, 1);
         act(x, 5, 2, 5, -((10 ^ 5) - 4) * 2, 3, 21, 2, 51, 1);
         act(x, 6, 0, 5, 11, 1);
@@ -936,5 +967,165 @@ public final class KnockPipesPromises {
         x.image();
         x.noise(0, 0, 0, 1);
         due("a new image", x.undo(), 2);
+    }
+
+    static void rowsOfAnImage() {
+        KnockPipes x = new KnockPipes();
+        x.noise(0, 0, 5, 9);
+        x.note(2, 5, 1);
+        x.note(3, 15, 1);
+        due("heard by iron or air", x.fits(0), 0b01);
+        x.image();
+        x.clear();
+        x.note(9, 5, 1);
+        x.note(9, 6, 1);
+        x.day(0, ALL);
+        due("other rows", x.fits(0), 0);
+        due("louder by iron", x.loud(0, 2, 0), 2);
+        x.day(0, minutes(0, 0));
+        x.undo();
+        due("the rows as they were", x.fits(0), 0b01);
+        due("the warmth as it was", x.warmth(0), 0);
+        due("loud as it was", x.loud(0, 1, 0) * 10 + x.loud(0, 2, 0), 51);
+        x.clear();
+        x.note(2, 35, 1);
+        x.note(2, 35, 0);
+        due("the place and the minute", x.fits(0), 0b01);
+    }
+
+    static KnockPipes oneThatKnocks() {
+        KnockPipes x = new KnockPipes();
+        x.noise(0, 0, 5, 9);
+        x.note(0, 5, 1);
+        return x;
+    }
+
+    /** Each call as the first one that asks what knocks. */
+    static void firstCalls() {
+        due("odds first", oneThatKnocks().odds(0, 0), 1);
+        due("fits first", oneThatKnocks().fits(0), 1);
+        due("which first", oneThatKnocks().which(1), 1);
+        due("knocks first", oneThatKnocks().knocks(0, 5, 2), 1);
+        due("heard first", oneThatKnocks().heard(0, -1), 4);
+        due("seems first", oneThatKnocks().seems(5), 0);
+        due("least first", oneThatKnocks().least(0, 3), 1);
+        due("quiet first", oneThatKnocks().quiet(1), 1);
+        due("moved first", oneThatKnocks().moved(0, 0), 3);
+        due("older first", oneThatKnocks().older(), 40);
+        due("harm first", oneThatKnocks().harm(0), 36);
+        KnockPipes x = oneThatKnocks();
+        x.noise(0, 0, 6, 9);
+        due("parted first", x.parted(0, 1), 0x40100401L << 5 | 0x40100401L << 6);
+        x = oneThatKnocks();
+        x.noise(0, 0, 6, 9);
+        due("next first", x.next(), 5);
+        // one row, one fit: 1 of 1, and 0 of 1
+        due("odds of 1 in 1", x.odds(0, 0) * 10 + x.odds(0, 1), 11);
+        due("odds of 0 in 1", x.odds(1, 0) * 10 + x.odds(1, 1), 1);
+        x = oneThatKnocks();
+        house(x, "grow 1 p=3");
+        x.moved(0, 3);
+        due("what moved asked is gone", x.knocks(0, 5, 2), 1);
+        x.day(0, minutes(0, 0));
+        x.older();
+        due("what older asked is gone", x.warmth(0), 3);
+        x.quiet(0);
+        due("what quiet asked is gone", x.warmth(0), 3);
+    }
+
+    static void everythingFull() {
+        KnockPipes x = new KnockPipes();
+        // ten clauses on 120 bytes, ten noises, twelve rows
+        String text = "grow 5 k=1|k=4;grow 9 n>2&t<9;hold 2 p<4;hold 3 v=3;grow 2 k=7;hold 4 k=7;grow 1 t=99;hear 1;warm 6;air 3";
+        due("house", house(x, text), 0);
+        x.day(0, minutes(0, 9));
+        x.day(1, minutes(2, 3));
+        x.day(2, minutes(8, 20));
+        for (int i = 0; i < 10; i++) due("noise", x.noise(i % 7, i, i, 40), i);
+        for (int i = 0; i < 12; i++) x.note(i % 10, i, x.heard(i % 10, i));
+        int all = 0, each = 0;
+        for (int i = 0; i < 10; i++) {
+            for (int j = 0; j < 10; j++) x.still(j, i != j);
+            each += x.heard(4, -1);
+        }
+        for (int j = 0; j < 10; j++) x.still(j, false);
+        for (int m = 0; m < 40; m++) all += x.heard(4, m);
+        due("each alone, together", each, all);
+        due("the whole day", x.heard(4, -1), all);
+        due("the last noise strikes", x.knocks(9, 4, 2), 9);
+        due("harm of the last", x.harm(9), 9 * 40);
+        int fits = 0;
+        for (int i = 0; i < 10; i++) fits += Integer.bitCount(x.fits(i));
+        due("odds of the last", x.odds(9, 0) * fits, Integer.bitCount(x.fits(9)) * x.odds(9, 1));
+        int most = x.which(0);
+        for (int i = 0; i < 10; i++) due("most fits", Integer.bitCount(x.fits(i)) <= Integer.bitCount(x.fits(most)) ? 1 : 0, 1);
+        int set = x.which(1);
+        due("a set fits", set > 0 && set < 1024 ? 1 : 0, 1);
+        for (int j = 0; j < 10; j++) x.still(j, (set >> j & 1) == 0);
+        due("no fewer when nothing changes", x.older() >= 0 ? 1 : 0, 1);
+        for (int j = 0; j < 10; j++) x.still(j, false);
+        due("all to be still", x.least(9, 0) >> 9 & 1, 1);
+        due("eased", x.eased(9, 40) >= 0 ? 1 : 0, 1);
+        due("quiet: next door, and a noise of kind 0 where no clause holds", x.quiet(1), 1 << 6 | 1 << 7);
+        due("seems", x.seems(4) >= 0 ? 1 : 0, 1);
+        due("try", x.next() >= 0 ? 1 : 0, 1);
+        due("moved", x.moved(9, 9), 0);
+        due("image", x.image(), 10);
+        due("undo", x.undo(), 10);
+    }
+
+    /** No number may make a call throw: all of them on an empty object, and on a full one. */
+    static void wildNumbers() {
+        int[] wild = {Integer.MIN_VALUE, -41, -2, -1, 0, 1, 6, 9, 10, 11, 12, 39, 40, 41, 99, 100, Integer.MAX_VALUE};
+        for (int full = 0; full < 2; full++) {
+            for (int a : wild) {
+                for (int b : wild) {
+                    KnockPipes x = new KnockPipes();
+                    if (full == 1) {
+                        house(x, "grow 9 (p<9|k=1)&!t=40;hold 0 n>0");
+                        x.day(0, minutes(0, 9));
+                        for (int i = 0; i < 10; i++) x.noise(i % 7, i, 9 - i, 40);
+                        for (int i = 0; i < 12; i++) x.note(i % 10, i, 1);
+                    }
+                    call(x, a, b);
+                    call(x, b, a);
+                }
+            }
+        }
+        checked++;
+    }
+
+    static void call(KnockPipes x, int a, int b) {
+        x.image();
+        x.day(a, (long) b << 8);
+        x.feed(b * 3L, a);
+        x.house();
+        x.told(a);
+        x.warmth(a);
+        x.noise(a, b, b, b);
+        x.of(a, b);
+        x.still(a, true);
+        for (int c = -1; c < 4; c++) x.knocks(a, b, c);
+        for (int c = -1; c < 11; c += 4) x.loud(a, c, b);
+        x.heard(a, b);
+        x.seems(a);
+        x.note(a, b, a);
+        x.fits(a);
+        x.odds(a, b);
+        x.which(a);
+        x.next();
+        x.least(a, b);
+        x.eased(a, b);
+        x.parted(a, b);
+        x.quiet(a);
+        x.moved(a, b);
+        x.older();
+        x.harm(a);
+        for (int c = -1; c < 4; c++) x.act(a, c, b);
+        x.trace(a);
+        x.as(a, b);
+        x.count(a);
+        x.undo();
+        x.clear();
     }
 }
