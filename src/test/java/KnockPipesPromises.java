@@ -374,6 +374,8 @@ public final class KnockPipesPromises {
         due("tests of the minute", x.knocks(0, 9, 0), 30 * 41 / 10);
         house(x, "grow 10 p=1&p=0|k=1;grow 20 p=1&(p=0|k=1);grow 40 !p=1&p=0;grow 80 !(p=1|p=0)");
         due("& ahead of |, and ( ), and !", x.knocks(0, 9, 0), 30 * 50 / 10);
+        house(x, "grow 10 !n<0;grow 20 n<0|v=4;grow 40 n>0|n<0");
+        due("what can't hold", x.knocks(0, 9, 0), 30 * 30 / 10);
     }
 
     static void ticks() {
@@ -784,6 +786,8 @@ public final class KnockPipesPromises {
         x.noise(0, 0, 0, 40);
         due("where an E holds, loud", x.moved(1, 0), 5);
         due("and as ever", x.knocks(1, 0, 2), 1);
+        house(x, "hold 1 p>9");
+        due("no place 10", x.moved(1, 0), 0);
         x.still(1, true);
         due("a still one", x.moved(1, 0), 0);
         due("moved none", x.moved(2, 0), -1);
@@ -977,12 +981,13 @@ public final class KnockPipesPromises {
         due("heard by iron or air", x.fits(0), 0b01);
         x.image();
         x.clear();
-        x.note(9, 5, 1);
-        x.note(9, 6, 1);
+        x.note(9, 6, 0);
+        x.note(9, 5, 0);
         x.day(0, ALL);
-        due("other rows", x.fits(0), 0);
+        due("other rows", x.fits(0), 0b11);
         due("louder by iron", x.loud(0, 2, 0), 2);
         x.day(0, minutes(0, 0));
+        due("warm", x.warmth(0), 3);
         x.undo();
         due("the rows as they were", x.fits(0), 0b01);
         due("the warmth as it was", x.warmth(0), 0);
@@ -1011,6 +1016,9 @@ public final class KnockPipesPromises {
         due("least first", oneThatKnocks().least(0, 3), 1);
         due("quiet first", oneThatKnocks().quiet(1), 1);
         due("moved first", oneThatKnocks().moved(0, 0), 3);
+        KnockPipes warm = oneThatKnocks();
+        warm.day(0, ALL);
+        due("moved first, warm", warm.moved(0, 0), 4);
         due("older first", oneThatKnocks().older(), 40);
         due("harm first", oneThatKnocks().harm(0), 36);
         KnockPipes x = oneThatKnocks();
@@ -1023,7 +1031,7 @@ public final class KnockPipesPromises {
         due("odds of 1 in 1", x.odds(0, 0) * 10 + x.odds(0, 1), 11);
         due("odds of 0 in 1", x.odds(1, 0) * 10 + x.odds(1, 1), 1);
         x = oneThatKnocks();
-        house(x, "grow 1 p=3");
+        house(x, "grow 1 p=9");
         x.moved(0, 3);
         due("what moved asked is gone", x.knocks(0, 5, 2), 1);
         x.day(0, minutes(0, 0));
