@@ -15,7 +15,7 @@ public final class KnockPipes {
 
     private static final int NOISE = 0, TICKING = 1, STRUCK = 2, HUMMING = 3, STEAMED = 4, GURGLING = 5,
         NEXT_DOOR = 6, KINDS = 7;
-    private static final int[] ABOVE = {-1, NOISE, NOISE, NOISE, TICKING, STRUCK, HUMMING};
+    private static final int NO_KIND = -1;
 
     private static final int GROWS = 0, STRIKES = 1, TELLS = 2, ACTS = 3;
 
@@ -346,14 +346,20 @@ public final class KnockPipes {
         return kind >= 0 && kind < KINDS;
     }
 
-    /** Whether a kind is another, or stands under it. */
-    private static boolean isUnder(int kind, int other) {
-        int at = kind;
-        for (int step = 0; step < KINDS && isKind(at); step++) {
-            if (at == other) return true;
-            at = ABOVE[at];
+    /** No table: Java 17's compiler may read one at NO_KIND, ahead of the test that forbids it, and crash. */
+    private static int above(int kind) {
+        switch (kind) {
+            case TICKING: case STRUCK: case HUMMING: return NOISE;
+            case STEAMED: return TICKING;
+            case GURGLING: return STRUCK;
+            case NEXT_DOOR: return HUMMING;
+            default: return NO_KIND;
         }
-        return false;
+    }
+
+    /** Whether a kind is another, or stands under it: two kinds at most are above one. */
+    private static boolean isUnder(int kind, int other) {
+        return kind == other || above(kind) == other || above(above(kind)) == other;
     }
 
     private static int greatestShared(int a, int b) {
@@ -993,8 +999,6 @@ public final class KnockPipes {
     /** The bodies of the acts, and which of them ran. */
     private static final class Acts {
         private static final int KEPT = 20, DEEPEST = 20;
-        /** By kind and act; 0 where a kind has no body of its own. */
-        private static final int[] BODIES = {1, 2, 3, 11, 0, 0, 0, 21, 0, 0, 0, 31, 0, 0, 41, 51, 0, 0, 0, 61, 0};
 
         final int[] trace = new int[KEPT];
         int ran = 0;
@@ -1015,11 +1019,25 @@ public final class KnockPipes {
             if (depth > DEEPEST) return 0;
             int at = from;
             for (int step = 0; step < KINDS && isKind(at); step++) {
-                int body = BODIES[at * ACTS + act];
-                if (body != 0) return run(body, ABOVE[at], x, depth + 1);
-                at = ABOVE[at];
+                int body = bodyOf(at, act);
+                if (body != 0) return run(body, above(at), x, depth + 1);
+                at = above(at);
             }
             return 0;
+        }
+
+        /** 0 where a kind has no body of its own. */
+        private static int bodyOf(int kind, int act) {
+            switch (kind) {
+                case NOISE: return act + 1;
+                case TICKING: return act == GROWS ? 11 : 0;
+                case STRUCK: return act == STRIKES ? 21 : 0;
+                case HUMMING: return act == TELLS ? 31 : 0;
+                case STEAMED: return act == TELLS ? 41 : 0;
+                case GURGLING: return act == GROWS ? 51 : 0;
+                case NEXT_DOOR: return act == STRIKES ? 61 : 0;
+                default: return 0;
+            }
         }
 
         private int run(int body, int above, int x, int depth) {

@@ -1,37 +1,5 @@
 /** Each promise by hand: ordinary calls, the edges that the document names, and wrong ones. */
-public final class KnockPipesPromises {
-    static int wrong = 0;
-    static int checked = 0;
-
-    static void due(String call, long got, long want) {
-        checked++;
-        if (got == want) return;
-        wrong++;
-        System.out.println(call + " answered " + got + ", due is " + want);
-    }
-
-    static void feed(KnockPipes x, String text) {
-        for (int i = 0; i < text.length(); i++) x.feed(text.charAt(i), 1);
-    }
-
-    static int house(KnockPipes x, String text) {
-        feed(x, text);
-        return x.house();
-    }
-
-    /** What house() answers of a text on a new object. */
-    static void read(String text, int want) {
-        due("house of '" + text + "'", house(new KnockPipes(), text), want);
-    }
-
-    static long minutes(int from, int to) {
-        long bits = 0;
-        for (int m = from; m <= to; m++) bits |= 1L << m;
-        return bits;
-    }
-
-    static final long ALL = minutes(0, 39);
-
+public final class KnockPipesPromises extends Asking {
     public static void main(String[] args) {
         newObject();
         days();
@@ -68,8 +36,7 @@ public final class KnockPipesPromises {
         firstCalls();
         everythingFull();
         wildNumbers();
-        System.out.println(wrong == 0 ? checked + " answers by hand are as due" : wrong + " answers are not as due");
-        if (wrong != 0) System.exit(1);
+        end("promises by hand");
     }
 
     // 1
@@ -1100,7 +1067,7 @@ public final class KnockPipesPromises {
                 }
             }
         }
-        checked++;
+        due("calls with wild numbers come back", 0, 0);
     }
 
     static void call(KnockPipes x, int a, int b) {
