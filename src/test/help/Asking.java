@@ -13,6 +13,8 @@ abstract class Asking {
     static final long ALL = minutes(0, 39);
     static final int WORST_ANSWERS_SHOWN = 200;
 
+    private static final String[] FOR_ALL = {"## What it is", "## The public face", "## Terms", "## Not promised"};
+
     private static int wrong = 0;
     private static int checked = 0;
     private static int sentences = 0;
@@ -30,14 +32,14 @@ abstract class Asking {
         if (wrong <= WORST_ANSWERS_SHOWN) System.out.println((sentence.isEmpty() ? "" : "[" + sentence + "] ") + what);
     }
 
-    /** What follows tries these words of the document; they must stand under the promise, or under Terms. */
+    /** What follows tries these words of the document; they must stand under the promise, or where the document speaks of all. */
     static void says(int promise, String words) {
         sentenceEnds();
         sentence = promise + " " + words;
         sentences++;
         checkedBefore = checked;
-        boolean stands = part("## Promise " + promise + ":").contains(words) || part("## Terms").contains(words)
-            || part("## What it is").contains(words);
+        boolean stands = part("## Promise " + promise + ":").contains(words);
+        for (String heading : FOR_ALL) stands |= part(heading).contains(words);
         if (!stands) isWrong("the document does not say so");
     }
 

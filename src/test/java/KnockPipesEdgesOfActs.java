@@ -13,6 +13,7 @@ public final class KnockPipesEdgesOfActs extends Asking {
         bodiesOfSteamed();
         bodiesOfGurgling();
         bodiesOfNextDoor();
+        bodiesFromAbove();
         numbersOfNoises();
         actsWrap();
         actsOfStillOnes();
@@ -142,6 +143,25 @@ public final class KnockPipesEdgesOfActs extends Asking {
         act(x, 6, 0, 5, 5 + 6, 1);
         act(x, 6, 1, 5, 11 - 3 + 3, 61, 2, 1);
         act(x, 6, 2, 5, 22 ^ 7, 31, 3, 61, 2, 1);
+    }
+
+    static void bodiesFromAbove() {
+        says(27, "the body of its KIND, or, if that has none, of the next KIND above that has one");
+        KnockPipes x = ofAllKinds();
+        // by kind, the body that each act begins with
+        int[][] first = {{1, 2, 3}, {11, 2, 3}, {1, 21, 3}, {1, 2, 31}, {11, 2, 41}, {51, 21, 3}, {1, 61, 31}};
+        for (int kind = 0; kind < 7; kind++) {
+            for (int act = 0; act < 3; act++) {
+                x.act(kind, act, 0);
+                due("first body of act " + act + " of kind " + kind, x.trace(0), first[kind][act]);
+            }
+        }
+        says(27, "super.grows(..): so from the KIND above the body's on");
+        // 51 goes on above GURGLING, where STRUCK has no body of its own; 61 above NEXT DOOR, where HUMMING has none
+        act(x, 5, 0, 6, 11 ^ 5, 51, 1);
+        act(x, 6, 1, 6, 12, 61, 2, 1);
+        // 41 goes on above STEAMED, where TICKING has none; what NOISE's bodies send goes to STEAMED's kind again
+        act(x, 4, 2, 3, (6 + 4 - 5) * 2 + 10, 41, 3, 2, 11, 1, 11, 1);
     }
 
     static void numbersOfNoises() {
@@ -278,6 +298,15 @@ public final class KnockPipesEdgesOfActs extends Asking {
     }
 
     static void asUnder() {
+        says(29, "0 NOISE; 1 TICKING, 2 STRUCK, 3 HUMMING under NOISE; 4 STEAMED under TICKING; 5 GURGLING under STRUCK;"
+            + " 6 NEXT DOOR under HUMMING");
+        KnockPipes all = ofAllKinds();
+        int[] above = {0, 0, 0, 0, 1, 2, 3};
+        for (int kind = 0; kind < 7; kind++) {
+            due("under NOISE, kind " + kind, all.as(kind, 0), 9 - kind);
+            due("under the one above, kind " + kind, all.as(kind, above[kind]), 9 - kind);
+            due("its own, kind " + kind, all.as(kind, kind), 9 - kind);
+        }
         says(29, "A NOISE taken for a KIND k (0 .. 6), or one under that: its v");
         String[] taken = {"0", "01", "02", "03", "014", "025", "036"};
         for (int v = 0; v <= 9; v++) {

@@ -23,6 +23,7 @@ public final class KnockPipesEdgesOfHearing extends Asking {
         worstOfSeveral();
         nextAsked();
         nextOfSeveral();
+        nextWithin();
         nextAlike();
         end("edges of hearing");
     }
@@ -431,6 +432,27 @@ public final class KnockPipesEdgesOfHearing extends Asking {
         x.noise(0, 6, 8, 40);
         // each alone is told from three others, in any of these
         due("the least place, and its least minute", x.next(), 608);
+    }
+
+    static void nextWithin() {
+        says(19, "PLACES 0 .. 9 in a row");
+        // both reach 0 .. 9, and one of them alone would reach 10
+        KnockPipes x = in("air 3;iron 9");
+        x.noise(0, 0, 0, 28);
+        x.noise(0, 0, 0, 40);
+        due("apart nowhere in the row", x.next(), 0);
+        x.noise(0, 0, 0, 27);
+        due("apart at 9", x.next(), 900);
+        // both reach 9 .. 0, and one of them alone would reach -1
+        x = in("air 3;iron 9");
+        x.noise(0, 9, 0, 28);
+        x.noise(0, 9, 0, 40);
+        due("apart nowhere in the row", x.next(), 0);
+        // apart in minutes 40 and on, were there any
+        x = in(NARROW + ";grow 0 t<40");
+        x.noise(0, 0, 0, 40);
+        x.noise(0, 0, 1, 40);
+        due("apart in no minute of the day", x.next(), 0);
     }
 
     static void nextAlike() {

@@ -8,6 +8,7 @@ public final class KnockPipesEdgesOfHouses extends Asking {
 
     public static void main(String[] args) {
         newObject();
+        constants();
         newObjectHasNoClauses();
         calls512();
         dayRows();
@@ -65,6 +66,16 @@ public final class KnockPipesEdgesOfHouses extends Asking {
         KnockPipes other = new KnockPipes();
         due("another object has no noises", other.count(0), 0);
         due("nor that house", other.count(1), 0);
+    }
+
+    static void constants() {
+        says(1, "public static final int NONE = -1, BAD = -2, STATE = -3, FULL = -4");
+        due("NONE", KnockPipes.NONE, -1);
+        due("BAD", KnockPipes.BAD, -2);
+        due("STATE", KnockPipes.STATE, -3);
+        due("FULL", KnockPipes.FULL, -4);
+        says(1, "`NO = Long.MIN_VALUE`: There is no such number.");
+        due("NO", KnockPipes.NO, Long.MIN_VALUE);
     }
 
     static void newObjectHasNoClauses() {
@@ -361,6 +372,10 @@ public final class KnockPipesEdgesOfHouses extends Asking {
         holds(NOT + "|" + NOT, false);
         holds(NOT + "|" + NOT + "|" + YES, true);
         holds(NOT + "|" + NOT + "|" + NOT, false);
+        // the first letter, sign and number, beside others
+        holds("n<0|" + YES, true);
+        holds(YES + "|n<0", true);
+        holds("n<0|n<0|" + NOT, false);
         faultAt(7, "grow 5 |t<1");
         faultAt(11, "grow 5 t<1|");
         faultAt(11, "grow 5 t<1||t<1");
@@ -396,6 +411,8 @@ public final class KnockPipesEdgesOfHouses extends Asking {
         holds("!!" + YES, true);
         holds("!!!" + YES, false);
         holds("!!!!!" + NOT, true);
+        holds("!n<0", true);
+        holds("!!n<0", false);
         holds("(" + YES + ")", true);
         holds("(" + NOT + ")", false);
         holds("((((("+ YES + ")))))", true);

@@ -178,7 +178,12 @@ public final class KnockPipesEdgesOfWhatToDo extends Asking {
         x.day(1, at(0));
         x.day(2, at(5));
         for (int kind = 0; kind < 7; kind++) due("it knocks, kind " + kind, x.harm(kind) > 0 ? 1 : 0, 1);
+        due("by 0, knocking in minute 0, too", x.eased(0, 0), 0);
         due("struck once, gurgling twice", x.eased(0, 1), 3);
+        x.day(1, at(39));
+        due("gurgling in minute 39", x.eased(0, 1), 1);
+        due("by 0", x.eased(0, 0), 0);
+        x.day(1, at(0));
         x.still(2, true);
         due("struck is still", x.eased(0, 1), 2);
         x.still(5, true);
@@ -299,6 +304,12 @@ public final class KnockPipesEdgesOfWhatToDo extends Asking {
 
     static void quietKinds() {
         says(23, "QUIET: whether, nothing being on in the whole DAY, no NOISE KNOCKS (1; else 0); which ones do, as bits");
+        KnockPipes plain = in("warm 9;grow 90 t<50;cool 0");
+        for (int v = 0; v < 10; v++) plain.noise(v % 5 + 1, 0, v / 5, 1);
+        for (int round = 0; round < 2; round++) {
+            due("none of v 0 or 1", plain.quiet(1), 0);
+            for (int what = 0; what < 3; what++) plain.day(what, 0x5555555555L);
+        }
         KnockPipes x = in("warm 9;grow 9 k=1|k=4|n=9;hold 9 n=8&t<30;cool 9;hear 99");
         for (int i = 0; i < 6; i++) x.noise(i < 1 ? 5 : i, 0, 9, 1);
         for (int round = 0; round < 2; round++) {

@@ -27,6 +27,8 @@ public final class KnockPipesRefusals extends Asking {
             for (Refused question : questions) changesNothing(state, question, false);
         }
         refusedActs();
+        firstOfSeveral();
+        manyCalls();
         end("refusals");
     }
 
@@ -219,6 +221,57 @@ public final class KnockPipesRefusals extends Asking {
         asked("least(5, 3)", x -> x.least(5, 3));
         asked("eased(5, 30)", x -> x.eased(5, 30));
         asked("older()", x -> x.older());
+    }
+
+    static void firstOfSeveral() {
+        says(31, "REFUSALS, of several the first one told");
+        for (int state = 0; state < STATES; state++) {
+            KnockPipes x = made(state);
+            due("day: what, bits", x.day(3, -1), NONE);
+            due("noise: kind, v", x.noise(-1, 0, -1, 1), NONE);
+            due("noise: place, loudness", x.noise(0, 10, 0, 41), NONE);
+            due("note: place, n", x.note(-1, 0, -1), NONE);
+            due("note: minute, n", x.note(0, 40, 100), NONE);
+            due("least: place, n", x.least(-1, -1), NONE);
+            due("eased: place, c", x.eased(10, 41), NONE);
+            due("as: k, another kind", x.as(0, 7), NONE);
+            due("seems: minute, none knocks", x.seems(40), NONE);
+            due("which: what, no noises", x.which(3), NONE);
+            due("odds: noise, part", x.odds(10, 2), NONE);
+            due("parted: no noise, one", x.parted(-1, -1), NO);
+        }
+        KnockPipes full = made(FULL_ONE);
+        due("feed: n, full", full.feed(0, 9), BAD);
+        due("feed: full", full.feed(0, 1), FULL);
+        due("noise: kind, full", full.noise(7, 0, 0, 1), NONE);
+        due("noise: v, full", full.noise(0, 0, 10, 1), BAD);
+        due("noise: full", full.noise(0, 0, 0, 1), FULL);
+        due("note: minute, full", full.note(0, -1, 0), NONE);
+        due("note: n, full", full.note(0, 0, -1), BAD);
+        due("note: full", full.note(0, 0, 0), FULL);
+        due("house: full, a fault", full.house(), FULL);
+    }
+
+    /** Beyond the 512th call answers are free, but each call comes back. */
+    static void manyCalls() {
+        says(1, "nothing about an object after its 512th call");
+        KnockPipes x = new KnockPipes();
+        for (int i = 0; i < 20000; i++) {
+            int a = i % 13 - 1;
+            x.noise(a, a, a, i % 43);
+            x.feed(word("air 7;a"), i % 10);
+            x.house();
+            x.note(a, i % 43 - 1, a);
+            x.day(i % 4, (long) i << 20);
+            x.still(a, i % 3 == 0);
+            x.act(a, i % 4, i);
+            x.trace(a);
+            x.heard(a, i % 42 - 1);
+            x.undo();
+            if (i % 100 == 0) x.image();
+            if (i % 50 == 0) x.clear();
+        }
+        due("they come back", x.count(5), NONE);
     }
 
     /** A refused act takes the trace away, and nothing else. */

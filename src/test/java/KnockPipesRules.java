@@ -33,6 +33,7 @@ public final class KnockPipesRules {
         face();
         classes();
         text(Files.readString(Path.of("src/main/java/KnockPipes.java"), StandardCharsets.UTF_8));
+        everyPromiseIsTried();
         room();
         System.out.println(wrong == 0 ? "the face and the rules are kept" : wrong + " rules are not kept");
         if (wrong != 0) System.exit(1);
@@ -109,6 +110,8 @@ public final class KnockPipesRules {
             String call = library.group(1) + "." + library.group(2);
             must(may.contains(call) || code.contains("class " + library.group(1) + " "), call + " may be called");
         }
+        // Java 17's compiler may read such a table ahead of the test of its index, and crash
+        must(!Pattern.compile("\\b(\\w+) = [A-Z_]+\\[\\1\\]").matcher(bare).find(), "no table leads on into itself");
         methodsAreShort(bare);
         loopsMakeNothing(bare);
     }
@@ -131,6 +134,17 @@ public final class KnockPipesRules {
         for (String line : bare.split("\n")) {
             boolean makes = line.contains("new ") && !line.matches("( {4}| {8})(private |final )+.* = new .*;");
             must(!makes, "objects are made with an object: " + line.trim());
+        }
+    }
+
+    /** Each promise has a test that names words of it. */
+    static void everyPromiseIsTried() throws Exception {
+        StringBuilder tests = new StringBuilder();
+        try (var files = Files.list(Path.of("src/test/java"))) {
+            for (Path file : files.toList()) tests.append(Files.readString(file, StandardCharsets.UTF_8));
+        }
+        for (int promise = 1; promise <= 32; promise++) {
+            must(tests.indexOf("says(" + promise + ", \"") >= 0, "promise " + promise + " is tried");
         }
     }
 
