@@ -116,7 +116,7 @@ public final class KnockPipes {
     public int loud(int noise, int place, int minute) {
         if (!now.noises.has(noise) || !isPlace(place) || !isMinute(minute)) return NONE;
         settle();
-        return loudOf(noise, now.noises.loudness[noise], place, minute);
+        return loudOf(noise, place, minute);
     }
 
     // ---- hearing
@@ -223,9 +223,11 @@ public final class KnockPipes {
         int less = 0;
         for (int i = 0; i < now.noises.count; i++) {
             if (!now.noises.isLoose(i) || !isUnder(now.noises.kind[i], STRUCK)) continue;
-            int loudness = Math.max(1, now.noises.loudness[i] - c);
+            int was = now.noises.loudness[i];
             less += heardInDayOf(i, place);
-            for (int minute = 0; minute < MINUTES; minute++) less -= heardOf(i, loudness, place, minute);
+            now.noises.loudness[i] = Math.max(1, was - c);
+            less -= heardInDayOf(i, place);
+            now.noises.loudness[i] = was;
         }
         return less;
     }
@@ -386,7 +388,8 @@ public final class KnockPipes {
         for (int i = 0; i < now.noises.count; i++) sounds.knock(now.noises, i, tap, pump);
     }
 
-    private int loudOf(int i, int loudness, int place, int minute) {
+    private int loudOf(int i, int place, int minute) {
+        int loudness = now.noises.loudness[i];
         int off = Math.abs(now.noises.place[i] - place);
         int loud = Math.max(0, loudness - now.house.numbers[AIR] * off);
         if (sounds.warmth[minute] > 0 || isUnder(now.noises.kind[i], STRUCK)) {
@@ -395,14 +398,10 @@ public final class KnockPipes {
         return loud;
     }
 
-    /** What one noise adds there, were it not still and of this loudness. */
-    private int heardOf(int i, int loudness, int place, int minute) {
-        if (loudOf(i, loudness, place, minute) < now.house.numbers[HEAR]) return 0;
-        return sounds.knocksOf(i, minute);
-    }
-
+    /** What one noise adds there, were it not still. */
     private int heardAlone(int i, int place, int minute) {
-        return heardOf(i, now.noises.loudness[i], place, minute);
+        if (loudOf(i, place, minute) < now.house.numbers[HEAR]) return 0;
+        return sounds.knocksOf(i, minute);
     }
 
     private int heardInDayOf(int i, int place) {
@@ -429,7 +428,7 @@ public final class KnockPipes {
         int sum = 0;
         for (int i = 0; i < now.noises.count; i++) {
             boolean does = now.noises.isLoose(i) && sounds.knocksOf(i, minute) > 0;
-            if (does) sum += loudOf(i, now.noises.loudness[i], place, minute);
+            if (does) sum += loudOf(i, place, minute);
         }
         return sum;
     }
@@ -632,12 +631,13 @@ public final class KnockPipes {
 
         final int[] numbers = new int[NUMBERS];
         final int[] codes = new int[BYTES];
-        final boolean[] grows = new boolean[CLAUSES];
         final int[] amount = new int[CLAUSES];
         /** Behind the last code of each clause: the next one's codes start there. */
         final int[] end = new int[CLAUSES];
+        /** Which clauses are growing ones, as bits; the others hold. */
+        private int growing = 0;
         int clauses = 0;
-        int size = 0;
+        private int size = 0;
 
         House() {
             empty();
@@ -645,6 +645,7 @@ public final class KnockPipes {
 
         void empty() {
             System.arraycopy(WITHOUT, 0, numbers, 0, NUMBERS);
+            growing = 0;
             clauses = 0;
             size = 0;
         }
@@ -655,10 +656,14 @@ public final class KnockPipes {
             size++;
         }
 
+        boolean grows(int clause) {
+            return (growing >> clause & 1) != 0;
+        }
+
         /** The codes put since the last clause are a clause. */
-        void close(boolean growing, int n) {
+        void close(boolean grows, int n) {
             if (clauses < 0 || clauses >= CLAUSES) return;
-            grows[clauses] = growing;
+            if (grows) growing |= 1 << clauses;
             amount[clauses] = n;
             end[clauses] = size;
             clauses++;
@@ -667,9 +672,9 @@ public final class KnockPipes {
         void copy(House from) {
             System.arraycopy(from.numbers, 0, numbers, 0, NUMBERS);
             System.arraycopy(from.codes, 0, codes, 0, BYTES);
-            System.arraycopy(from.grows, 0, grows, 0, CLAUSES);
             System.arraycopy(from.amount, 0, amount, 0, CLAUSES);
             System.arraycopy(from.end, 0, end, 0, CLAUSES);
+            growing = from.growing;
             clauses = from.clauses;
             size = from.size;
         }
@@ -696,8 +701,11 @@ public final class KnockPipes {
         }
 
         static boolean holds(int code, int value) {
-            int order = Integer.compare(value, number(code)) + 1;
-            return order == sign(code);
+            switch (sign(code)) {
+                case 0: return value < number(code);
+                case 1: return value == number(code);
+                default: return value > number(code);
+            }
         }
 
         /** The minutes for which a test of the minute holds. */
@@ -781,39 +789,31 @@ public final class KnockPipes {
             return -1;
         }
 
-        private int digit() {
-            int here = peek();
-            return here >= '0' && here <= '9' ? here - '0' : -1;
-        }
-
         private int number() {
-            int first = digit();
-            if (first < 0) return -1;
+            int first = peek() - '0';
+            if (first < 0 || first > 9) return -1;
             at++;
-            int second = digit();
+            int second = peek() - '0';
             // behind a 0 no digit can stand, so it is left for the caller to stumble over
-            if (first == 0 || second < 0) return first;
+            if (first == 0 || second < 0 || second > 9) return first;
             at++;
             return 10 * first + second;
         }
 
-        /** E; open is how many ! and ( stand open around it. */
+        /** E, with its T: a | waits till the & behind it are done; open is how many ! and ( stand open around it. */
         private boolean either(int open) {
-            if (!both(open)) return false;
-            for (int i = 0; i < BYTES && eats('|'); i++) {
-                if (!both(open)) return false;
-                draft.put(House.OR);
-            }
-            return true;
-        }
-
-        private boolean both(int open) {
-            if (!factor(open)) return false;
-            for (int i = 0; i < BYTES && eats('&'); i++) {
+            boolean and = false;
+            boolean or = false;
+            for (int factors = 0; factors < BYTES; factors++) {
                 if (!factor(open)) return false;
-                draft.put(House.AND);
+                if (and) draft.put(House.AND);
+                and = eats('&');
+                if (and) continue;
+                if (or) draft.put(House.OR);
+                or = eats('|');
+                if (!or) return true;
             }
-            return true;
+            return false;
         }
 
         private boolean factor(int open) {
@@ -896,7 +896,7 @@ public final class KnockPipes {
             for (int clause = 0; clause < house.clauses; clause++) {
                 long when = holds(house, start, house.end[clause], noises, i);
                 bare[i] &= ~when;
-                addTo(house.grows[clause] ? growth : hold, i, when, house.amount[clause]);
+                addTo(house.grows(clause) ? growth : hold, i, when, house.amount[clause]);
                 start = house.end[clause];
             }
         }

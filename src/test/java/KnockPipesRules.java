@@ -8,7 +8,9 @@ import java.nio.file.Path;
 import java.util.ArrayList;
 import java.util.Arrays;
 import java.util.Collections;
+import java.util.HashMap;
 import java.util.List;
+import java.util.Map;
 import java.util.TreeSet;
 import java.util.regex.Matcher;
 import java.util.regex.Pattern;
@@ -112,8 +114,83 @@ public final class KnockPipesRules {
         }
         // Java 17's compiler may read such a table ahead of the test of its index, and crash
         must(!Pattern.compile("\\b(\\w+) = [A-Z_]+\\[\\1\\]").matcher(bare).find(), "no table leads on into itself");
+        // the language tells of arraycopy beside functions "over arrays of numbers", so rows of booleans are not copied
+        Matcher copied = Pattern.compile("arraycopy\\((?:\\w+\\.)*(\\w+),").matcher(bare);
+        while (copied.find()) {
+            must(!bare.contains("boolean[] " + copied.group(1)), copied.group(1) + " is copied, so a row of numbers");
+        }
+        // compare promises no more than whether its answer is below, at or above 0
+        must(!Pattern.compile("\\bcompare\\([^;]*\\)\\s*([-+*]|==|!=) *[1-9]").matcher(bare).find(), "no sums with compare");
         methodsAreShort(bare);
         loopsMakeNothing(bare);
+        callsAreShallow(bare);
+    }
+
+    static final int DEEPEST = 8;
+
+    /**
+     * "calls that are no recursion go at most eight deep": the longest way from a public method down, on which no
+     * method stands twice. Methods and calls are found by their text; a receiver's class by how it is declared.
+     */
+    static void callsAreShallow(String bare) {
+        Map<String, String> classOf = new HashMap<>();
+        Matcher declared = Pattern.compile("\\b([A-Z]\\w+) (\\w+)(?= =|,|\\))").matcher(bare);
+        while (declared.find()) classOf.put(declared.group(2), declared.group(1));
+        Map<String, StringBuilder> bodies = bodies(bare);
+        must(bodies.size() > 100, "the methods are found, and not only " + bodies.size());
+        Map<String, TreeSet<String>> calls = new HashMap<>();
+        bodies.forEach((method, body) -> {
+            String own = method.substring(0, method.indexOf('.'));
+            TreeSet<String> to = new TreeSet<>();
+            Matcher call = Pattern.compile("(?:(\\w+)\\.)?\\b(\\w+)\\(").matcher(body);
+            while (call.find()) {
+                String on = call.group(1) == null ? own : classOf.getOrDefault(call.group(1), call.group(1));
+                for (String callee : List.of(on + "." + call.group(2), "KnockPipes." + call.group(2))) {
+                    if (!bodies.containsKey(callee)) continue;
+                    to.add(callee);
+                    break;
+                }
+            }
+            calls.put(method, to);
+        });
+        for (String method : bodies.keySet()) {
+            List<String> way = longest(method, calls, new ArrayList<>());
+            must(way.size() <= DEEPEST, "calls go " + DEEPEST + " deep at most, but " + way);
+        }
+    }
+
+    static List<String> longest(String method, Map<String, TreeSet<String>> calls, List<String> way) {
+        way.add(method);
+        List<String> best = new ArrayList<>(way);
+        for (String callee : calls.get(method)) {
+            if (way.contains(callee)) continue;
+            List<String> other = longest(callee, calls, way);
+            if (other.size() > best.size()) best = other;
+        }
+        way.remove(way.size() - 1);
+        return best;
+    }
+
+    /** Class.method, and what stands between its braces. */
+    static Map<String, StringBuilder> bodies(String bare) {
+        Map<String, StringBuilder> all = new HashMap<>();
+        String type = "KnockPipes";
+        StringBuilder body = null;
+        for (String line : bare.split("\n")) {
+            Matcher inner = Pattern.compile(" {4}private static final class (\\w+) \\{").matcher(line);
+            Matcher head = Pattern.compile("( {4}| {8})(?:[\\w\\[\\]]+ )*(\\w+)\\([^()]*\\) \\{").matcher(line);
+            if (inner.matches()) {
+                type = inner.group(1);
+            } else if (head.matches()) {
+                body = new StringBuilder();
+                all.put((head.group(1).length() == 4 ? "KnockPipes" : type) + "." + head.group(2), body);
+            } else if (line.matches("( {4}| {8})\\}")) {
+                body = null;
+            } else if (body != null) {
+                body.append(line).append('\n');
+            }
+        }
+        return all;
     }
 
     /** A method's head stands four or eight blanks in, and its last line as far. */
